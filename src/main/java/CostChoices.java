@@ -30,7 +30,7 @@ public final class CostChoices {
 
     private final Graph graph = new Graph();
     private final Graph draft = new Graph();
-    private final Reader reader = new Reader();
+    private final Reader reader = new Reader(text, draft);
 
     private final Graph[] past = new Graph[UNDO_LIMIT];
     private int pastCount;
@@ -40,8 +40,8 @@ public final class CostChoices {
     private final Weights standing = new Weights();
     private final Weights altered = new Weights();
     private final Reduction reduction = new Reduction();
-    private final Search search = new Search();
-    private final Search alteredSearch = new Search();
+    private final Search search = new Search(standing, false);
+    private final Search alteredSearch = new Search(altered, true);
     private boolean weighed;
     private boolean reductionRun;
     private boolean searchRun;
@@ -53,10 +53,11 @@ public final class CostChoices {
         for (int k = 0; k < KEEP_LIMIT; k++) {
             kept[k] = new Graph();
         }
-        for (int k = 0; k < START.length() && k < TEXT_LIMIT; k++) {
-            text[k] = START.charAt(k);
+        for (int k = 0; k < START.length(); k++) {
+            write(START.charAt(k));
         }
-        reader.read(text, START.length(), graph);
+        lay();
+        wipe();
     }
 
     // ---- graphs
@@ -80,11 +81,11 @@ public final class CostChoices {
     }
 
     public int fault() {
-        return reader.read(text, textLength, draft);
+        return reader.read(textLength);
     }
 
     public int lay() {
-        if (reader.read(text, textLength, draft) != NONE || draft.nodes == 0) {
+        if (reader.read(textLength) != NONE || draft.nodes == 0) {
             return NO;
         }
         graph.copyFrom(draft);
@@ -262,7 +263,7 @@ public final class CostChoices {
         }
         altered.weigh(graph);
         altered.allowOnly(u, i);
-        alteredSearch.run(altered);
+        alteredSearch.run();
         return alteredSearch.best;
     }
 
@@ -275,7 +276,7 @@ public final class CostChoices {
         }
         altered.weigh(graph);
         part(altered.mates, u, v);
-        alteredSearch.run(altered);
+        alteredSearch.run();
         return alteredSearch.best;
     }
 
@@ -371,7 +372,7 @@ public final class CostChoices {
     private void bringSearch() {
         bringWeights();
         if (!searchRun) {
-            search.run(standing);
+            search.run();
             searchRun = true;
         }
     }
@@ -397,7 +398,7 @@ public final class CostChoices {
     }
 
     private static boolean hasBit(int bits, int u) {
-        return (bits >> u & 1) != 0;
+        return ((bits >> u) & 1) != 0;
     }
 
     private static void joinByNoughts(int[] mates, int[] entries, int u, int v) {
@@ -491,17 +492,20 @@ public final class CostChoices {
 
     /** Reads a text, item by item, into a graph. */
     private static final class Reader {
-        private char[] letters = new char[0];
+        private final char[] letters;
+        private final Graph into;
         private int length;
         private int at;
-        private Graph into = new Graph();
+
+        Reader(char[] letters, Graph into) {
+            this.letters = letters;
+            this.into = into;
+        }
 
         /** The place of the first fault, or NONE; with a fault the graph is of no use. */
-        int read(char[] text, int textLength, Graph target) {
-            letters = text;
-            length = Math.min(textLength, text.length);
+        int read(int textLength) {
+            length = Math.min(textLength, letters.length);
             at = 0;
-            into = target;
             into.nodes = 0;
             for (int items = 0; items < TEXT_LIMIT && at < length; items++) {
                 int start = at;
@@ -589,7 +593,7 @@ public final class CostChoices {
         }
 
         private int readFigure() {
-            if (at >= length || !isWithin(letters[at], '0', '9')) {
+            if (at >= length || letters[at] < '0' || letters[at] > '9') {
                 return -1;
             }
             int figure = letters[at] - '0';
@@ -666,7 +670,7 @@ public final class CostChoices {
             if (others == 0) {
                 return sum;
             }
-            for (int v = 0; v < nodes; v++) {
+            for (int v = 0; v < nodes && others >> v != 0; v++) {
                 if (hasBit(others, v)) {
                     sum += entries[entryPlace(u, v, i, plan[v])];
                 }
@@ -684,7 +688,7 @@ public final class CostChoices {
 
         /** With these alone each tie is counted once, at its higher node. */
         int matesBelow(int u) {
-            return mates[u] & (1 << u) - 1;
+            return mates[u] & ((1 << u) - 1);
         }
 
         /** The least that v and its tie to u cost together, u being at i. */
@@ -885,10 +889,16 @@ public final class CostChoices {
         private final int[] chosen = new int[NODE_LIMIT];
         /** What the nodes from here on cost at the very least, ties left aside. */
         private final int[] rest = new int[NODE_LIMIT + 1];
-        private Weights weights = new Weights();
+        private final Weights weights;
+        /** Whether nothing but the best is asked: then what is as good can be passed over. */
+        private final boolean bestAlone;
 
-        void run(Weights asked) {
-            weights = asked;
+        Search(Weights weights, boolean bestAlone) {
+            this.weights = weights;
+            this.bestAlone = bestAlone;
+        }
+
+        void run() {
             best = NEVER;
             next = NEVER;
             ways = 0;
@@ -918,7 +928,7 @@ public final class CostChoices {
 
         private void takeIn(int sum) {
             if (sum < best) {
-                next = best;
+                next = bestAlone ? sum : best;
                 best = sum;
                 ways = 1;
                 same = (1 << weights.nodes) - 1;
