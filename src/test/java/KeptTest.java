@@ -5,22 +5,38 @@ public final class KeptTest {
 
     public static void main(String[] args) {
         keeping();
+        back();
+        backWhenNoneIsKept();
         allAsItStands();
-        undoAndKeep();
+        twoAtMost();
+        nothingUndoneByBack();
+        keepIsNoAct();
+        theTextStays();
         counting();
+        countsAtTheLimits();
+        countingBad();
         DUE.end();
     }
 
     private static void keeping() {
+        DUE.sentence("KEPT: how many. FULL.");
         CostChoices x = new CostChoices();
-        DUE.is("back", x.back(), NO);
         DUE.is("keep", x.keep(), 1);
-        x.price(0, 0, 50);
         DUE.is("keep", x.keep(), 2);
-        x.price(0, 0, 60);
         DUE.is("keep", x.keep(), FULL);
         DUE.is("count(4)", x.count(4), 2);
-        DUE.is("cost", x.cost(0, 0), 60);
+        x.back();
+        DUE.is("keep", x.keep(), 2);
+        DUE.is("keep", x.keep(), FULL);
+    }
+
+    private static void back() {
+        DUE.sentence("As KEPT last: how many are left;");
+        CostChoices x = new CostChoices();
+        x.keep();
+        x.price(0, 0, 50);
+        x.keep();
+        x.price(0, 0, 60);
         DUE.is("back", x.back(), 1);
         DUE.is("cost", x.cost(0, 0), 50);
         x.price(0, 0, 70);
@@ -30,11 +46,24 @@ public final class KeptTest {
         DUE.is("cost", x.cost(0, 0), 70);
         DUE.is("back", x.back(), 0);
         DUE.is("cost", x.cost(0, 0), 5);
-        DUE.is("back", x.back(), NO);
-        DUE.is("cost", x.cost(0, 0), 5);
+    }
+
+    private static void backWhenNoneIsKept() {
+        DUE.sentence("nothing is UNDONE then. NO.");
+        CostChoices x = new CostChoices();
+        DUE.is("none is kept", x.back(), NO);
+        x.price(0, 0, 50);
+        DUE.is("none is kept", x.back(), NO);
+        DUE.is("the act stays", x.cost(0, 0), 50);
+        DUE.is("it can be undone", x.count(3), 1);
+        x.keep();
+        DUE.is("back", x.back(), 0);
+        DUE.is("none more", x.back(), NO);
+        DUE.is("cost", x.cost(0, 0), 50);
     }
 
     private static void allAsItStands() {
+        DUE.sentence("KEPT is all as it stands: 2 at most.");
         CostChoices x = new CostChoices();
         x.pin(0, 1);
         x.rename(2, 3);
@@ -57,7 +86,43 @@ public final class KeptTest {
         DUE.is("count(2)", x.count(2), 1);
     }
 
-    private static void undoAndKeep() {
+    private static void twoAtMost() {
+        CostChoices x = new CostChoices();
+        x.price(0, 0, 51);
+        x.keep();
+        x.price(0, 0, 52);
+        x.keep();
+        x.price(0, 0, 53);
+        DUE.is("a third", x.keep(), FULL);
+        DUE.is("what stands stays", x.cost(0, 0), 53);
+        DUE.is("back", x.back(), 1);
+        DUE.is("the second stays", x.cost(0, 0), 52);
+        DUE.is("back", x.back(), 0);
+        DUE.is("the first stays", x.cost(0, 0), 51);
+    }
+
+    private static void nothingUndoneByBack() {
+        DUE.sentence("how many are left; nothing is UNDONE then.");
+        CostChoices x = new CostChoices();
+        x.price(0, 0, 50);
+        x.keep();
+        x.price(0, 0, 51);
+        x.back();
+        DUE.is("count(3)", x.count(3), 0);
+        DUE.is("undo", x.undo(), NO);
+        DUE.is("cost", x.cost(0, 0), 50);
+        x.price(0, 0, 52);
+        DUE.is("undo of a later act", x.undo(), 0);
+        DUE.is("cost", x.cost(0, 0), 50);
+        x.keep();
+        for (int c = 10; c < 20; c++) {
+            x.price(0, 0, c);
+        }
+        x.back();
+        DUE.is("none of the eight", x.undo(), NO);
+    }
+
+    private static void keepIsNoAct() {
         CostChoices x = new CostChoices();
         x.price(0, 0, 50);
         x.price(0, 0, 51);
@@ -66,10 +131,14 @@ public final class KeptTest {
         DUE.is("undo", x.undo(), 1);
         DUE.is("cost", x.cost(0, 0), 50);
         DUE.is("kept still", x.count(4), 1);
+        DUE.is("undo", x.undo(), 0);
         DUE.is("back", x.back(), 0);
-        DUE.is("cost", x.cost(0, 0), 51);
+        DUE.is("as it stood when it was kept", x.cost(0, 0), 51);
         DUE.is("nothing undone", x.undo(), NO);
-        DUE.is("count(3)", x.count(3), 0);
+    }
+
+    private static void theTextStays() {
+        CostChoices x = new CostChoices();
         x.keep();
         x.write('n');
         x.back();
@@ -79,13 +148,14 @@ public final class KeptTest {
         DUE.is("lay with a fault keeps", x.lay(), NO);
         DUE.is("count(4)", x.count(4), 1);
         DUE.is("count(3)", x.count(3), 1);
+        x.undo();
+        DUE.is("the text stays", x.count(5), 1);
     }
 
     private static void counting() {
+        DUE.sentence("How many: 0 NODES, 1 TIES, 2 PINNED, 3 that can be UNDONE, 4 KEPT, 5 letters of THE TEXT. BAD.");
         CostChoices x = new CostChoices();
-        DUE.is("count(-1)", x.count(-1), BAD);
-        DUE.is("count(6)", x.count(6), BAD);
-        DUE.is("count(max)", x.count(Integer.MAX_VALUE), BAD);
+        DUE.row("count", x::count, 5, 5, 0, 0, 0, 0);
         x.pin(0, 0);
         x.pin(3, 1);
         x.loose(0, 1);
@@ -95,5 +165,25 @@ public final class KeptTest {
         x.write(';');
         x.write('e');
         DUE.row("count", x::count, 5, 4, 2, 3, 1, 4);
+    }
+
+    private static void countsAtTheLimits() {
+        CostChoices x = Due.laid(Texts.EIGHT_NODES + Texts.TWELVE_TIES);
+        for (int u = 0; u < 8; u++) {
+            x.pin(u, 0);
+        }
+        x.keep();
+        x.keep();
+        while (x.write(' ') != FULL) {
+            DUE.holds("200 at most", x.count(5) <= 200);
+        }
+        DUE.row("all full", x::count, 8, 12, 8, 8, 2, 200, BAD);
+        CostChoices y = Due.laid("n0,0;");
+        y.wipe();
+        DUE.row("all empty", y::count, 1, 0, 0, 0, 0, 0, BAD);
+    }
+
+    private static void countingBad() {
+        DUE.each("count", new CostChoices()::count, BAD, -1, 6, 7, 256, Integer.MAX_VALUE, Integer.MIN_VALUE);
     }
 }
