@@ -6,6 +6,7 @@ public final class ByAllTest {
     public static void main(String[] args) {
         leasts();
         leastOfAll();
+        leastOfALaterGraph();
         justNever();
         firstChoices();
         firstPlans();
@@ -46,13 +47,23 @@ public final class ByAllTest {
         least(Due.laid("n1,98;".repeat(8) + Texts.TWELVE_TIES.replace(",1;", ",8;")), 8 * 196 + 12 * 8);
         least(Due.laid("n0,0,1;n0,0,1;e0,1,8543;"), 5, 2);
         least(Due.laid(Texts.ASTRAY), 3);
-        CostChoices x = Due.laid("n0,1;n0,99;");
+    }
+
+    private static void leastOfALaterGraph() {
+        CostChoices x = Due.laid("n0,1;n0,99;n0,1;");
         least(x, NEVER, 0);
         x.wipe();
         Due.writeOn(x, "n0,3,9,4;");
         x.lay();
         least(x, 3, 1, 1, 4, 3);
         DUE.row("first", x::first, 0, BAD);
+        CostChoices y = Due.laid("n0,1;n0,99;n0,1;");
+        least(y, NEVER, 0);
+        y.wipe();
+        Due.writeOn(y, "n0,1;n0,4;");
+        y.lay();
+        least(y, 5, 1, 3, NONE, 5);
+        DUE.row("first", y::first, 0, 0, BAD);
     }
 
     private static void justNever() {

@@ -174,9 +174,7 @@ public final class KeptTest {
         }
         x.keep();
         x.keep();
-        while (x.write(' ') != FULL) {
-            DUE.holds("200 at most", x.count(5) <= 200);
-        }
+        Due.writeOn(x, " ".repeat(80));
         DUE.row("all full", x::count, 8, 12, 8, 8, 2, 200, BAD);
         CostChoices y = Due.laid("n0,0;");
         y.wipe();

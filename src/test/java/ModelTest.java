@@ -3,7 +3,8 @@ import java.util.Random;
 /** All promises: long runs of calls, good and wrong, on the class and on the model side by side. */
 public final class ModelTest {
     private static final Due DUE = new Due("ModelTest");
-    private static final int RUNS = 1500, CALLS = 400;
+    /** With a text of some 220 letters behind them, the calls of a run are 512 at most. */
+    private static final int RUNS = 2000, CALLS = 285;
 
     private final Random random;
     private final int run;

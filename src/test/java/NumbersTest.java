@@ -15,10 +15,10 @@ public final class NumbersTest {
     public static void main(String[] args) {
         DUE.sentence("BAD: a number is none that is told (NODES, CHOICES: such as there are).");
         for (String text : TEXTS) {
-            CostChoices laid = Due.laid(text);
+            int[] choices = choicesOf(text);
             for (Calls.Call call : Calls.ALL) {
                 for (int place = 0; place < call.takes.length; place++) {
-                    numbersOf(text, laid, call, place);
+                    numbersOf(text, choices, call, place);
                 }
                 if (call.takes.length > 0) {
                     allFar(text, call);
@@ -28,10 +28,19 @@ public final class NumbersTest {
         DUE.end();
     }
 
-    private static void numbersOf(String text, CostChoices laid, Calls.Call call, int place) {
-        for (int u = 0; u < laid.count(0); u++) {
-            int[] good = goodNumbers(call, u, laid.count(0));
-            int[] ends = ends(laid, call, good, place);
+    private static int[] choicesOf(String text) {
+        CostChoices x = Due.laid(text);
+        int[] choices = new int[x.count(0)];
+        for (int u = 0; u < choices.length; u++) {
+            choices[u] = x.node(u, 1);
+        }
+        return choices;
+    }
+
+    private static void numbersOf(String text, int[] choices, Calls.Call call, int place) {
+        for (int u = 0; u < choices.length; u++) {
+            int[] good = goodNumbers(call, u, choices.length);
+            int[] ends = ends(choices, call, good, place);
             good(text, call, good, place, ends[0]);
             good(text, call, good, place, ends[1]);
             bad(text, call, good, place, ends[0] - 1);
@@ -58,12 +67,12 @@ public final class NumbersTest {
     }
 
     /** The lowest and the highest that is told for this place. */
-    private static int[] ends(CostChoices laid, Calls.Call call, int[] good, int place) {
+    private static int[] ends(int[] choices, Calls.Call call, int[] good, int place) {
         switch (call.takes[place]) {
             case LETTER: return new int[] {32, 126};
-            case NODE: return new int[] {0, laid.count(0) - 1};
-            case CHOICE: return new int[] {0, laid.node(nodeOf(call, good, place), 1) - 1};
-            case PIN: return new int[] {-1, laid.node(good[0], 1) - 1};
+            case NODE: return new int[] {0, choices.length - 1};
+            case CHOICE: return new int[] {0, choices[nodeOf(call, good, place)] - 1};
+            case PIN: return new int[] {-1, choices[good[0]] - 1};
             case OWN_COST: return new int[] {0, 99};
             case FIGURE: return new int[] {0, 9};
             case KIND: return new int[] {0, 3};

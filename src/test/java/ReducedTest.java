@@ -319,6 +319,12 @@ public final class ReducedTest {
         x.pin(3, 1);
         taken(x, 0, 0, 2, 1);
         cost(x, 1 + 8 + 8 + 1, 0);
+        // Behind the four choices of 0 nothing is added to 1, which takes 3 ahead of 5.
+        CostChoices y = Due.laid("n0,0,0,0,0;n0,0,0;n0,0,0;n0,0,0,0,0;e0,1,00000000;e0,2,00000000;e1,2,0000;"
+                + "e0,3,0000000000000000;e1,3,33335555;e2,3,00000000;");
+        order(y, 3, 1, 2, 0);
+        taken(y, 0, 0, 0, 0);
+        cost(y, 3, 0);
     }
 
     private static void ruleThreeOfAPinned() {

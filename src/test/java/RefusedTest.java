@@ -17,6 +17,8 @@ public final class RefusedTest {
         nothingChanges(RefusedTest::full);
         nothingChanges(RefusedTest::impossible);
         nothingChanges(RefusedTest::emptied);
+        nothingChanges(RefusedTest::acted);
+        nothingChanges(RefusedTest::kept);
         eachRefusal();
         DUE.end();
     }
@@ -47,9 +49,8 @@ public final class RefusedTest {
             x.pin(c % 8, 0);
             x.keep();
         }
-        while (x.write('n') != FULL) {
-            x.rename(7, x.count(5) % 4);
-        }
+        x.rename(7, 3);
+        Due.writeOn(x, "n".repeat(200 - x.count(5)));
         return x;
     }
 
@@ -69,6 +70,31 @@ public final class RefusedTest {
         x.pin(0, 1);
         x.undo();
         x.wipe();
+        return x;
+    }
+
+    /** Eight acts, none kept, and all was asked ahead. */
+    private static CostChoices acted() {
+        CostChoices x = new CostChoices();
+        for (int c = 10; c < 20; c++) {
+            x.price(c % 5, 1, c);
+        }
+        x.least(0);
+        x.plan(0);
+        return x;
+    }
+
+    /** Two kept, no act, the longest text. */
+    private static CostChoices kept() {
+        CostChoices x = new CostChoices();
+        x.pin(2, 0);
+        x.keep();
+        x.pin(2, 1);
+        x.keep();
+        x.undo();
+        x.undo();
+        x.plan(0);
+        Due.writeOn(x, Texts.LONGEST);
         return x;
     }
 
@@ -200,6 +226,7 @@ public final class RefusedTest {
         Supplier<CostChoices> first = CostChoices::new;
         refuses("write BAD", BAD, RefusedTest::worked, x -> x.write(31));
         refuses("write FULL", FULL, RefusedTest::full, x -> x.write(32));
+        refuses("write FULL, no fault", FULL, RefusedTest::kept, x -> x.write(32));
         refuses("lay NO, no text", NO, RefusedTest::emptied, CostChoices::lay);
         refuses("lay NO, a fault", NO, RefusedTest::worked, CostChoices::lay);
         refuses("price BAD", BAD, RefusedTest::worked, x -> x.price(0, 0, 100));
@@ -216,8 +243,11 @@ public final class RefusedTest {
         refuses("rename NO", NO, RefusedTest::worked, x -> x.rename(2, 3));
         refuses("undo NO", NO, first, CostChoices::undo);
         refuses("undo NO, behind back", NO, RefusedTest::emptied, CostChoices::undo);
+        refuses("undo NO, two are kept", NO, RefusedTest::kept, CostChoices::undo);
         refuses("keep FULL", FULL, RefusedTest::full, CostChoices::keep);
+        refuses("keep FULL, no act", FULL, RefusedTest::kept, CostChoices::keep);
         refuses("back NO", NO, first, CostChoices::back);
+        refuses("back NO, eight acts", NO, RefusedTest::acted, CostChoices::back);
         refuses("back NO, all are back", NO, RefusedTest::emptied, CostChoices::back);
         DUE.sentence("NO: not as things stand. NONE: there is none. FULL.");
         refuses("fault NONE", NONE, first, CostChoices::fault);
