@@ -69,7 +69,9 @@ public final class FaceTest {
         }
         Class<?>[] nested = CostChoices.class.getDeclaredClasses();
         DUE.holds("twelve classes at most", nested.length <= 11);
+        fewFields(CostChoices.class);
         for (Class<?> one : nested) {
+            fewFields(one);
             DUE.holds(one + " is static", Modifier.isStatic(one.getModifiers()));
             DUE.holds(one + " is not open", !Modifier.isPublic(one.getModifiers())
                     && !Modifier.isProtected(one.getModifiers()));
@@ -78,6 +80,14 @@ public final class FaceTest {
                 DUE.holds(method + " takes seven at most", method.getParameterCount() <= 7);
             }
         }
+    }
+
+    private static void fewFields(Class<?> one) {
+        int fields = 0;
+        for (Field field : one.getDeclaredFields()) {
+            fields += Modifier.isStatic(field.getModifiers()) ? 0 : 1;
+        }
+        DUE.holds(one + " has twenty fields at most: " + fields, fields <= 20);
     }
 
     private static void letters() throws Exception {

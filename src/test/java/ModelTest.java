@@ -48,32 +48,7 @@ public final class ModelTest {
     }
 
     private String text() {
-        StringBuilder text = new StringBuilder();
-        int nodes = 1 + random.nextInt(random.nextInt(4) == 0 ? 9 : 7);
-        int[] choices = new int[nodes];
-        int most = 1 + random.nextInt(nodes > 6 ? 3 : 4);
-        for (int u = 0; u < nodes; u++) {
-            choices[u] = 1 + random.nextInt(most);
-            text.append('n').append(random.nextInt(4));
-            for (int i = 0; i < choices[u]; i++) {
-                int range = random.nextInt(3);
-                text.append(',').append(range == 0 ? 99 : random.nextInt(range == 1 ? 12 : 4));
-            }
-            text.append(';');
-        }
-        int density = 1 + random.nextInt(4);
-        boolean harsh = random.nextInt(4) == 0;
-        for (int u = 0; u < nodes; u++) {
-            for (int v = u + 1; v < nodes; v++) {
-                if (random.nextInt(4) < density && text.length() < 190) {
-                    text.append('e').append(u).append(',').append(v).append(',');
-                    for (int k = 0; k < choices[u] * choices[v]; k++) {
-                        text.append(harsh ? 9 * random.nextInt(2) : random.nextInt(10));
-                    }
-                    text.append(';');
-                }
-            }
-        }
+        StringBuilder text = Texts.random(random);
         if (text.length() > 200 && random.nextInt(3) > 0) {
             text.setLength(text.lastIndexOf(";", 199) + 1);
         }

@@ -1,4 +1,6 @@
-/** Texts that stand at a limit, used by several tests. */
+import java.util.Random;
+
+/** Texts that stand at a limit, or that chance makes, used by several tests. */
 final class Texts {
     static final String EIGHT_NODES = "n0,1;n0,1;n0,1;n0,1;n0,1;n0,1;n0,1;n0,1;";
     /** Twelve ties of these nodes; of the 28 pairs 1, 7 is not tied. */
@@ -21,5 +23,36 @@ final class Texts {
     static final String IMPOSSIBLE = "n0,1,2;n0,99,3;n2,4,5,6;e0,1,0999;e1,2,123456;";
 
     private Texts() {
+    }
+
+    /** A text without fault, but that it may have nine nodes, thirteen ties or more than 200 letters. */
+    static StringBuilder random(Random random) {
+        StringBuilder text = new StringBuilder();
+        int nodes = 1 + random.nextInt(random.nextInt(4) == 0 ? 9 : 7);
+        int[] choices = new int[nodes];
+        int most = 1 + random.nextInt(nodes > 6 ? 3 : 4);
+        for (int u = 0; u < nodes; u++) {
+            choices[u] = 1 + random.nextInt(most);
+            text.append('n').append(random.nextInt(4));
+            for (int i = 0; i < choices[u]; i++) {
+                int range = random.nextInt(3);
+                text.append(',').append(range == 0 ? 99 : random.nextInt(range == 1 ? 12 : 4));
+            }
+            text.append(';');
+        }
+        int density = 1 + random.nextInt(4);
+        boolean harsh = random.nextInt(4) == 0;
+        for (int u = 0; u < nodes; u++) {
+            for (int v = u + 1; v < nodes; v++) {
+                if (random.nextInt(4) < density && text.length() < 190) {
+                    text.append('e').append(u).append(',').append(v).append(',');
+                    for (int k = 0; k < choices[u] * choices[v]; k++) {
+                        text.append(harsh ? 9 * random.nextInt(2) : random.nextInt(10));
+                    }
+                    text.append(';');
+                }
+            }
+        }
+        return text;
     }
 }
