@@ -2,7 +2,7 @@ import java.util.Random;
 
 /**
  * Answers of different calls that must agree with one another, whatever the graph: none of them is reckoned by
- * hand or by the model, so a wrong reading that both share would be seen here.
+ * hand or by the model, so a slip that the class and the model share can still be seen here.
  */
 public final class AgreeTest {
     private static final Due DUE = new Due("AgreeTest");
